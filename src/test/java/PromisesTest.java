@@ -13,11 +13,13 @@ public final class PromisesTest {
         test.faultsOfTokens();
         test.faultsOfClauses();
         test.faultsOfTooMany();
+        test.faultsWhereMoreStoodBefore();
         test.textsThatStand();
         test.read();
         test.readThatIsRefused();
         test.add();
         test.remove();
+        test.removeOfForty();
         test.support();
         test.undo();
         test.keepAndBack();
@@ -145,6 +147,8 @@ public final class PromisesTest {
         faultIs("", 0);
         faultIs("   ", 3);
         faultIs("tables 3", 0);
+        faultIs("tablez 3", 0);
+        faultIs("atable 3", 0);
         faultIs("tabl 3", 0);
         faultIs("Table 3", 0);
         faultIs("  cell 3", 2);
@@ -179,6 +183,7 @@ public final class PromisesTest {
         faultIs("support", 7);
         faultIs("support 0", 8);
         faultIs("support 9", NONE);
+        faultIs("support 1", NONE);
         faultIs("support 10", 8);
         faultIs("support 3 4", 10);
         faultIs("support x", 8);
@@ -219,6 +224,23 @@ public final class PromisesTest {
         x.erase();
         tell(x, "row 0 1;table 1;row 0 1");
         due.is("fault() with a table between", x.fault(), NONE);
+    }
+
+    private void faultsWhereMoreStoodBefore() {
+        due.part("4 fault, where more stood before");
+        String[][] texts = {{"support 12", "support 1", "-1"}, {"table  ", "table", "5"}, {"tables 4", "table", "5"},
+            {"table 4;", "table 4", "-1"}};
+        for (String[] both : texts) {
+            CubeClosures x = new CubeClosures();
+            tell(x, both[0]);
+            x.erase();
+            tell(x, both[1]);
+            due.is("fault() of '" + both[1] + "' behind '" + both[0] + "'", x.fault(), Integer.parseInt(both[2]));
+        }
+        faultIs("table" + " ".repeat(195), 200);
+        faultIs(" ".repeat(195) + "table", 200);
+        faultIs(" ".repeat(193) + "table 4", NONE);
+        faultIs(" ".repeat(192) + "table 4;", 200);
     }
 
     private void textsThatStand() {
@@ -263,6 +285,9 @@ public final class PromisesTest {
         due.is("read()", x.read(), 2);
         stateIs(x);
         cubeIs(x);
+        due.is("count(4)", x.count(4), 0);
+        due.is("key()", x.key(), 0);
+        due.is("cell(1, 0)", x.cell(1, 0), 0);
     }
 
     private void readThatIsRefused() {
@@ -312,6 +337,7 @@ public final class PromisesTest {
     private void remove() {
         due.part("7 remove");
         CubeClosures x = four();
+        due.is("cell(9, 0) before", x.cell(9, 0), 1);
         due.is("remove(4)", x.remove(4), UNKNOWN);
         due.is("remove(-1)", x.remove(-1), UNKNOWN);
         due.is("remove(most)", x.remove(MOST), UNKNOWN);
@@ -320,12 +346,45 @@ public final class PromisesTest {
         stateIs(x, 8, 16, 8);
         due.is("entry(2, 1)", x.entry(2, 1), 1001);
         due.is("cell(0, 1)", x.cell(0, 1), 10013);
+        due.is("cell(9, 0)", x.cell(9, 0), 0);
+        due.is("cell(16, 1)", x.cell(16, 1), 10007);
+        cubeIs(x, 0, 8, 16);
+        due.is("count(4)", x.count(4), 7);
         due.is("remove(2)", x.remove(2), 2);
         stateIs(x, 8, 16);
         due.is("remove(0)", x.remove(0), 1);
         due.is("remove(0)", x.remove(0), 0);
         due.is("remove(0)", x.remove(0), UNKNOWN);
         cubeIs(x);
+        due.is("count(4) of none", x.count(4), 0);
+        due.is("cell(8, 0) of none", x.cell(8, 0), 0);
+        due.is("key() of none", x.key(), 0);
+        due.is("best(1) of none", x.best(1), 0);
+    }
+
+    private void removeOfForty() {
+        due.part("7 remove, of forty");
+        CubeClosures x = told("table 6 6");
+        for (int i = 0; i < 40; i++) {
+            x.add(8 + i % 6, i);
+        }
+        due.is("count(3)", x.count(3), 7);
+        due.is("remove(39)", x.remove(39), 39);
+        due.is("cell(7, 0)", x.cell(7, 0), 39);
+        due.is("count(3)", x.count(3), 7);
+        due.is("undo()", x.undo(), 7);
+        due.is("remove(0)", x.remove(0), 39);
+        due.is("entry(38, 1)", x.entry(38, 1), 1039);
+        due.is("undo()", x.undo(), 7);
+        due.is("remove(25)", x.remove(25), 39);
+        due.is("entry(24, 1)", x.entry(24, 1), 1024);
+        due.is("entry(25, 1)", x.entry(25, 1), 1026);
+        due.is("undo()", x.undo(), 7);
+        for (int i = 0; i < 40; i++) {
+            due.is("entry(" + i + ", 0)", x.entry(i, 0), 8 + i % 6);
+            due.is("entry(" + i + ", 1)", x.entry(i, 1), 1000 + i);
+        }
+        due.is("cell(7, 1)", x.cell(7, 1), 10000 + 780);
     }
 
     private void support() {
@@ -347,13 +406,19 @@ public final class PromisesTest {
         due.part("9 undo");
         CubeClosures x = four();
         due.is("remove(1)", x.remove(1), 3);
+        due.is("cell(0, 0) before", x.cell(0, 0), 3);
         due.is("support(2)", x.support(2), 1);
         due.is("undo() of support", x.undo(), 5);
         due.is("count(2)", x.count(2), 1);
         due.is("undo() of remove", x.undo(), 4);
         stateIs(x, 8, 9, 16, 8);
-        due.is("entry(1, 1)", x.entry(1, 1), 901);
+        int[] measures = {5, -99, 7, 1};
+        for (int i = 0; i < measures.length; i++) {
+            due.is("entry(" + i + ", 1)", x.entry(i, 1), 1000 + measures[i]);
+        }
         due.is("cell(9, 1)", x.cell(9, 1), 9901);
+        due.is("cell(16, 1)", x.cell(16, 1), 10007);
+        cubeIs(x, 0, 2, 7, 8, 9, 16);
         due.is("undo() of add", x.undo(), 3);
         stateIs(x, 8, 9, 16);
         due.is("cell(8, 0)", x.cell(8, 0), 1);
@@ -387,7 +452,9 @@ public final class PromisesTest {
         x.remove(0);
         due.is("keep(0)", x.keep(0), 2);
         x.add(32, 9);
+        due.is("cell(32, 0) before", x.cell(32, 0), 1);
         due.is("back(1)", x.back(1), 4);
+        due.is("cell(32, 0)", x.cell(32, 0), 0);
         stateIs(x, 8, 9, 16, 8);
         due.is("entry(1, 1)", x.entry(1, 1), 901);
         due.is("count(2)", x.count(2), 1);
@@ -433,6 +500,7 @@ public final class PromisesTest {
                 due.is("cell(" + row[0] + ", " + what + ")", x.cell(row[0], what), row[what + 1]);
             }
         }
+        due.is("cell(0, 2) of one", told("row 0 0 5").cell(0, 2), 10005);
         due.is("cell(0, 4)", x.cell(0, 4), OUTSIDE);
         due.is("cell(0, -1)", x.cell(0, -1), OUTSIDE);
         int[] wrong = {5, 6, 33, 34, 35, 42, 49, -1, -7, -49, 343, MOST, LEAST};
@@ -541,6 +609,37 @@ public final class PromisesTest {
         CubeClosures deep = told("table 6 6 6 6");
         due.is("best(0) of none", deep.best(0), 123);
         due.is("best(1) of none", deep.best(1), 0);
+        due.is("best(0) of one dimension", told("table 6").best(0), 0);
+        bestByEachOrder(new int[][] {
+            {0, 0, 0}, {1, 0, 0}, {2, 0, 0}, {3, 1, 0}, {4, 1, 0}, {5, 2, 0}});
+        bestByEachOrder(new int[][] {
+            {0, 0, 0, 0}, {1, 0, 0, 0}, {2, 1, 0, 0}, {3, 1, 0, 0}, {4, 2, 1, 0}, {5, 3, 2, 0}, {0, 4, 1, 0}});
+    }
+
+    /** Dimension 0 of the rows parts most, the last one least; they are put in each order into a table. */
+    private void bestByEachOrder(int[][] rows) {
+        int dimensions = rows[0].length;
+        int most = (int) Math.pow(10, dimensions);
+        for (int order = 0; order < most; order++) {
+            String figures = ("000" + order).substring(("000" + order).length() - dimensions);
+            if (figures.chars().distinct().count() < dimensions || figures.chars().anyMatch(f -> f - '0' >= dimensions)) {
+                continue;
+            }
+            CubeClosures x = told("table" + " 6".repeat(dimensions) + ";support 2");
+            for (int[] row : rows) {
+                int[] values = new int[dimensions];
+                for (int place = 0; place < dimensions; place++) {
+                    values[figures.charAt(place) - '0'] = row[place];
+                }
+                int code = 0;
+                for (int value : values) {
+                    code = code * 7 + value + 1;
+                }
+                x.add(code, 0);
+            }
+            due.is("best(0) by " + figures, x.best(0), order);
+            due.is("best(1) by " + figures, x.best(1), x.part(order, 0));
+        }
     }
 
     // ---- promises 19 to 23
@@ -564,6 +663,13 @@ public final class PromisesTest {
         due.is("more(8, -1)", x.more(8, -1), OUTSIDE);
         x.support(3);
         due.is("more(8, 1) by support", x.more(8, 1), 1);
+        x.support(4);
+        due.is("more(8, 1) by one too few", x.more(8, 1), 1);
+        due.is("more(9, 1) by one too few", x.more(9, 1), 1);
+        due.is("more(16, 1) by two too few", x.more(16, 1), 0);
+        CubeClosures one = told("row 0 0 1");
+        due.is("more(16, 0) of all", one.more(16, 0), 3);
+        due.is("more(16, 1) of all", one.more(16, 1), 2);
         CubeClosures full = told("table 1");
         for (int i = 0; i < 40; i++) {
             due.is("more(1, 1)", full.more(1, 1), i == 0 ? 1 : 0);
@@ -614,6 +720,8 @@ public final class PromisesTest {
         }
         due.is("cap(0) of forty", full.cap(0), 41);
         due.is("cap(1) of forty", full.cap(1), 1);
+        full.remove(39);
+        due.is("cap(0) of thirty-nine", full.cap(0), 40);
     }
 
     private void key() {
@@ -678,6 +786,10 @@ public final class PromisesTest {
         due.is("row(1, 12) anew", x.row(1, 12), 12);
         due.is("sum(1)", x.sum(1), 12);
         due.is("asked() of noughts", x.asked(), 0);
+        x.set(1, 0, 3);
+        x.row(1, 1);
+        x.sum(1);
+        due.is("asked() of one nought", x.asked(), 0);
         due.is("row(2, 1) shorter", x.row(2, 1), 1);
         due.is("row(2, 2) longer", x.row(2, 2), 2);
         due.is("sum(2)", x.sum(2), 2);
@@ -717,6 +829,9 @@ public final class PromisesTest {
         due.is("asked()", x.asked(), 0);
         due.is("work(0, 1, 0, 7)", x.work(0, 1, 0, 7), 1);
         due.is("asked()", x.asked(), 7);
+        due.is("work(0, 1, 1, 7)", x.work(0, 1, 1, 7), 1);
+        due.is("asked()", x.asked(), 0);
+        due.is("work(0, 1, 0, 7)", x.work(0, 1, 0, 7), 1);
         due.is("work(0, 1, 1, 10)", x.work(0, 1, 1, 10), 1);
         due.is("asked()", x.asked(), -3);
         due.is("work(0, 1, 2, least)", x.work(0, 1, 2, LEAST), 1);
