@@ -608,7 +608,7 @@ public final class CubeClosures {
                 cellsOn[set] = 0;
             }
             for (int i = 0; i < size; i++) {
-                int many = Long.bitCount(covers[i]);
+                int many = Math.min(Long.bitCount(covers[i]), MOST_ENTRIES);
                 isClosed[i] = closureOf(covers[i]) == codes[i];
                 allOfSize[many]++;
                 if (isClosed[i]) {
@@ -619,7 +619,8 @@ public final class CubeClosures {
         }
 
         private long havingFigure(int dimension, int figure) {
-            return having[dimension * MOST_VALUES + figure - 1];
+            int at = dimension * MOST_VALUES + figure - 1;
+            return at >= 0 && at < having.length ? having[at] : 0;
         }
 
         long coverOf(int code) {
@@ -940,9 +941,9 @@ public final class CubeClosures {
             return true;
         }
 
-        void toFirstToken() {
+        /** The next token is the first one again. */
+        void rewind() {
             end = 0;
-            toNextToken();
         }
 
         void toNextToken() {
@@ -1005,8 +1006,6 @@ public final class CubeClosures {
 
     /** The text's clauses, done on a draft, so that a text with a fault changes nothing. */
     private static final class Clauses {
-        private static final int MOST_TEXT_MEASURE = 99;
-
         final Text text = new Text();
         final Table draft = new Table();
         int done = 0;
@@ -1015,19 +1014,20 @@ public final class CubeClosures {
         /** Does the clauses on a copy of the table: the place of the fault, or NONE. */
         int draftUpon(Table table) {
             draft.copyFrom(table);
-            text.toFirstToken();
-            for (done = 0; done < MOST_CLAUSES; text.toNextToken()) {
+            text.rewind();
+            for (done = 1; done <= MOST_CLAUSES; done++) {
+                text.toNextToken();
                 if (!doClause()) {
                     return text.start;
                 }
-                done++;
                 if (text.isAtEnd()) {
                     return NONE;
                 }
-                if (done == MOST_CLAUSES || !text.isToken(";")) {
+                if (!text.isToken(";")) {
                     return text.start;
                 }
             }
+            // Behind the last clause that there may be, not even ; can stand.
             return text.start;
         }
 
@@ -1083,7 +1083,7 @@ public final class CubeClosures {
                 code = code * CODE_BASE + value + 1;
                 text.toNextToken();
             }
-            int measure = text.numberWithin(0, MOST_TEXT_MEASURE);
+            int measure = text.numberWithin(0, MOST_MEASURE);
             if (measure == NONE) {
                 return false;
             }
@@ -1111,10 +1111,13 @@ public final class CubeClosures {
         }
 
         boolean isMissing(int row) {
-            return lengths[row] == MISSING;
+            return !isRow(row) || lengths[row] == MISSING;
         }
 
         void renew(int row, int n) {
+            if (!isRow(row) || n < 0 || n > MOST_PLACES) {
+                return;
+            }
             lengths[row] = n;
             for (int i = 0; i < n; i++) {
                 places[row][i] = 0;

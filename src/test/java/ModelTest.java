@@ -19,7 +19,7 @@ public final class ModelTest {
     }
 
     public static void main(String[] args) {
-        int runs = args.length > 0 ? Integer.parseInt(args[0]) : 60;
+        int runs = args.length > 0 ? Integer.parseInt(args[0]) : 200;
         Due due = new Due();
         for (int run = 0; run < runs; run++) {
             new ModelTest(due, run).go();
@@ -29,11 +29,11 @@ public final class ModelTest {
 
     private void go() {
         int ofThreeForTable = 1 + random.nextInt(2);
-        int left = CALLS;
+        int left = CALLS - tellText(TextMaker.make(random, "44"));
+        left -= addSome(random.nextInt(45));
         while (left > 0) {
-            if (random.nextInt(40) == 0 || left == CALLS) {
-                left -= tellText(TextMaker.make(random));
-                continue;
+            if (random.nextInt(120) == 0) {
+                left -= tellText(TextMaker.make(random, String.valueOf(plain.count(5))));
             }
             if (random.nextInt(3) < ofThreeForTable) {
                 left -= callOfTable();
@@ -54,6 +54,14 @@ public final class ModelTest {
             due.is("erase()", cube.erase(), plain.erase());
         }
         return text.length() + 3;
+    }
+
+    private int addSome(int many) {
+        for (int i = 0; i < many; i++) {
+            int code = code(true);
+            due.is("add(" + code + ", " + i + ")", cube.add(code, i), plain.add(code, i));
+        }
+        return many;
     }
 
     private int odd() {

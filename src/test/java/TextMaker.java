@@ -5,16 +5,18 @@ final class TextMaker {
     private TextMaker() {
     }
 
-    static String make(Random random) {
+    /** The figures tell how many values the dimensions of the table have now. */
+    static String make(Random random, String figures) {
         StringBuilder text = new StringBuilder();
-        int[] sizes = {4, 4};
+        int[] sizes = figures.chars().map(figure -> figure - '0').toArray();
+        boolean isNewTable = random.nextInt(3) > 0;
         int clauses = random.nextInt(5) == 0 ? 26 : 1 + random.nextInt(8);
         for (int i = 0; i < clauses; i++) {
             if (i > 0) {
                 text.append(random.nextInt(6) == 0 ? " ; " : ";");
             }
             int kind = random.nextInt(12);
-            if (i == 0 || kind == 0) {
+            if (i == 0 && isNewTable || kind == 0) {
                 sizes = table(text, random, clauses > 20);
             } else if (kind == 1) {
                 text.append("support").append(gap(random)).append(1 + random.nextInt(4));
