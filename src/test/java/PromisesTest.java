@@ -583,6 +583,12 @@ public final class PromisesTest {
         x.support(9);
         due.is("part(1, 0) of too few", x.part(1, 0), 12);
         due.is("part(1, 1) of too few", x.part(1, 1), 0);
+        CubeClosures fewer = four();
+        due.is("part(1, 1) of four", fewer.part(1, 1), 7);
+        fewer.remove(1);
+        fewer.remove(1);
+        due.is("part(1, 1) of fewer", fewer.part(1, 1), 3);
+        due.is("part(1, 0) of fewer", fewer.part(1, 0), 6);
         CubeClosures line = told("table 3;row 0 1;row 2 1;row 2 1");
         due.is("part(0, 0)", line.part(0, 0), 3);
         due.is("part(0, 1)", line.part(0, 1), 2);
@@ -735,7 +741,8 @@ public final class PromisesTest {
         due.is("key() by one rather than by two",
                 told("table 2 2 4;row 0 0 0 1;row 0 1 1 1;row 1 0 2 1;row 1 1 3 1").key(), 4);
         due.is("key() by the last two", told("table 1 2 2;row 0 0 0 1;row 0 0 1 1;row 0 1 0 1").key(), 6);
-        due.is("key() of four alike", four().key(), NONE);
+        due.is("key() of two alike among four", four().key(), NONE);
+        due.is("key() in four dimensions", told("table 6 6 6 6;row 1 2 3 4 5;row 1 2 3 4 6").key(), NONE);
     }
 
     private void rule() {
