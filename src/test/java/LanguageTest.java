@@ -24,7 +24,8 @@ public final class LanguageTest {
             "\\b(throw|throws|try|catch|finally|synchronized|assert|import|package|double|float|var)\\b"
             + "|->|::|\\b\\w+Exact\\b|\\.(equals|hashCode|toString)\\b|while \\(true\\)|for \\(;;");
     private static final int MOST_LINES = 60;
-    private static final int CALLS = 512;
+    /** An object is used for 512 calls; some fifty of them fill it, and each round makes fifteen. */
+    private static final int ROUNDS = 30;
     private static final int MOST_BYTES_FOR_AN_OBJECT = 40_000;
 
     private final Due due = new Due();
@@ -164,7 +165,7 @@ public final class LanguageTest {
     }
 
     private static void dearCalls(CubeClosures cube) {
-        for (int call = 0; call < CALLS; call++) {
+        for (int round = 0; round < ROUNDS; round++) {
             cube.add(400, 1);
             cube.best(0);
             cube.cap(3);

@@ -2,7 +2,7 @@
 public final class PromisesTest {
     private static final int NONE = -1, UNKNOWN = -2, OUTSIDE = -3, NOT = -4, FULL = -5,
             NULL = -11, INDEX = -12, SIZE = -13, OVER = -14;
-    private static final int LEAST = Integer.MIN_VALUE, MOST = Integer.MAX_VALUE;
+    private static final int LEAST = Cubes.LEAST, MOST = Cubes.MOST;
 
     private final Due due = new Due();
 
@@ -51,20 +51,19 @@ public final class PromisesTest {
     // ---- helpers
 
     private static CubeClosures told(String text) {
-        CubeClosures x = new CubeClosures();
-        tell(x, text);
-        x.read();
-        return x;
+        return Cubes.told(text);
     }
 
     private static void tell(CubeClosures x, String text) {
-        for (int i = 0; i < text.length(); i++) {
-            x.write(text.charAt(i));
-        }
+        Cubes.tell(x, text);
     }
 
     private static String repeated(String clause, int times) {
-        return (clause + ";").repeat(times - 1) + clause;
+        return Cubes.repeated(clause, times);
+    }
+
+    private static CubeClosures four() {
+        return Cubes.four();
     }
 
     private void faultIs(String text, int place) {
@@ -72,16 +71,6 @@ public final class PromisesTest {
         tell(x, text);
         due.is("fault() of '" + text + "'", x.fault(), place);
         due.is("fault() again of '" + text + "'", x.fault(), place);
-    }
-
-    /** Four entries: 0 0, 0 1, 1 1, 0 0 with measures 5, -99, 7, 1. */
-    private static CubeClosures four() {
-        CubeClosures x = new CubeClosures();
-        x.add(8, 5);
-        x.add(9, -99);
-        x.add(16, 7);
-        x.add(8, 1);
-        return x;
     }
 
     private void stateIs(CubeClosures x, int... codes) {
