@@ -33,11 +33,14 @@ public final class CallsEdgesTest {
         addBehindTheOthers();
         addOfTheFortyFirst();
         removeOfTheFirstAndTheLast();
+        removeOfTheFortieth();
         removeThoseBehind();
+        removeInEachDimension();
         removeOfNone();
         supportWhichItWas();
         supportThatItIs();
         undoOfEach();
+        undoOfWhatWasAskedFor();
         undoOfTheLastEight();
         undoAroundTheRing();
         undoOfRefusedCalls();
@@ -67,6 +70,7 @@ public final class CallsEdgesTest {
         partOfEach();
         bestOfEach();
         moreOfEach();
+        moreOfTheCellOfAll();
         moreWhenFull();
         lessOfEach();
         capOfEach();
@@ -272,6 +276,25 @@ public final class CallsEdgesTest {
         due.is("entry(38, 1)", x.entry(38, 1), UNKNOWN);
     }
 
+    private void removeOfTheFortieth() {
+        due.part("7: An ENTRY is taken out, of forty");
+        CubeClosures x = told("table 6 6 6 6");
+        for (int i = 0; i < 39; i++) {
+            x.add(400, i);
+        }
+        x.add(2400, 99);
+        due.is("count(3) of forty", x.count(3), 3);
+        due.is("count(4) of forty", x.count(4), 31);
+        due.is("cap(0) of forty", x.cap(0), 41);
+        due.is("remove(39)", x.remove(39), 39);
+        due.is("count(3) of thirty-nine", x.count(3), 1);
+        due.is("count(4) of thirty-nine", x.count(4), 16);
+        due.is("cap(0) of thirty-nine", x.cap(0), 40);
+        due.is("cell(6, 0)", x.cell(6, 0), 0);
+        due.is("cell(2058, 0)", x.cell(2058, 0), 0);
+        due.is("closure(0)", x.closure(0), 400);
+    }
+
     private void removeThoseBehind() {
         due.part("7: those behind it are by 1 less");
         for (int entry = 0; entry < 4; entry++) {
@@ -281,6 +304,19 @@ public final class CallsEdgesTest {
                 due.is("entry(" + i + ", 1)", x.entry(i, 1), 1000 + (i < entry ? i : i + 1));
             }
         }
+    }
+
+    private void removeInEachDimension() {
+        due.part("7: those behind it are by 1 less, in what was asked for before, too");
+        CubeClosures x = told("table 6 6 6 6;row 0 0 0 0 1;row 5 5 5 5 2");
+        due.is("count(3)", x.count(3), 3);
+        due.is("remove(0)", x.remove(0), 1);
+        for (int weight = 1; weight <= 343; weight *= 7) {
+            due.is("cell(" + weight + ", 0), of the one that is gone", x.cell(weight, 0), 0);
+            due.is("cell(" + 6 * weight + ", 1), of the other", x.cell(6 * weight, 1), 10002);
+        }
+        due.is("count(3)", x.count(3), 1);
+        due.is("closure(0)", x.closure(0), 2400);
     }
 
     private void removeOfNone() {
@@ -331,6 +367,24 @@ public final class CallsEdgesTest {
         due.is("entry(0, 1)", x.entry(0, 1), 1005);
         due.is("entry(1, 1)", x.entry(1, 1), 901);
         due.is("cell(8, 1)", x.cell(8, 1), 10006);
+    }
+
+    private void undoOfWhatWasAskedFor() {
+        due.part("9: is undone, in what was asked for before, too");
+        CubeClosures x = Cubes.four();
+        due.is("count(3)", x.count(3), 6);
+        due.is("undo() of add()", x.undo(), 3);
+        due.is("count(3) of three", x.count(3), 6);
+        due.is("cell(8, 0) of three", x.cell(8, 0), 1);
+        x.remove(1);
+        due.is("count(3) of two", x.count(3), 3);
+        due.is("undo() of remove()", x.undo(), 3);
+        due.is("count(3) of three again", x.count(3), 6);
+        due.is("cell(9, 1)", x.cell(9, 1), 9901);
+        x.support(2);
+        due.is("count(3) by 2", x.count(3), 3);
+        due.is("undo() of support()", x.undo(), 3);
+        due.is("count(3) by 1", x.count(3), 6);
     }
 
     private void undoOfTheLastEight() {
@@ -559,6 +613,10 @@ public final class CallsEdgesTest {
         for (int what = 0; what < 4; what++) {
             due.is("cell(0, " + what + ")", x.cell(0, what), dues[what]);
         }
+        int[] duesOfSome = {2, 10006, 10001, 10005};
+        for (int what = 0; what < 4; what++) {
+            due.is("cell(8, " + what + ")", x.cell(8, what), duesOfSome[what]);
+        }
         due.is("cell(0, 4)", x.cell(0, 4), OUTSIDE);
         due.is("cell(0, -1)", x.cell(0, -1), OUTSIDE);
         due.is("cell(5, 4)", x.cell(5, 4), OUTSIDE);
@@ -694,6 +752,20 @@ public final class CallsEdgesTest {
         due.is("more(33, 0)", x.more(33, 0), OUTSIDE);
         due.is("more(49 + 8, 0)", x.more(49 + 8, 0), OUTSIDE);
         due.is("more(-8, 0)", x.more(-8, 0), OUTSIDE);
+    }
+
+    private void moreOfTheCellOfAll() {
+        due.part("19: new ones (1), the CELL of ALL among them");
+        CubeClosures x = told("row 0 0 1");
+        due.is("more(8, 0), alike", x.more(8, 0), 1);
+        due.is("more(8, 1), alike", x.more(8, 1), 0);
+        due.is("more(9, 0), alike in one", x.more(9, 0), 3);
+        due.is("more(9, 1), alike in one", x.more(9, 1), 2);
+        due.is("more(32, 0), alike in none", x.more(32, 0), 3);
+        due.is("more(32, 1), alike in none", x.more(32, 1), 2);
+        x.support(2);
+        due.is("more(32, 0) by 2", x.more(32, 0), 1);
+        due.is("more(32, 1) by 2", x.more(32, 1), 1);
     }
 
     private void moreWhenFull() {
