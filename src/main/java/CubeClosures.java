@@ -855,11 +855,11 @@ public final class CubeClosures {
 
         int bestOrder() {
             int[] orders = ordersOf(dimensions);
-            int best = 0;
-            int leastWork = Integer.MAX_VALUE;
+            int best = NONE;
+            int leastWork = 0;
             for (int i = 0; i < orders.length; i++) {
                 int needed = workBy(orders[i]);
-                if (needed < leastWork) {
+                if (best == NONE || needed < leastWork) {
                     leastWork = needed;
                     best = orders[i];
                 }
@@ -1152,6 +1152,7 @@ public final class CubeClosures {
     /** What a long cannot hold is found before it is used. */
     private static final class Exact {
         static final int PLUS = 0, MINUS = 1;
+        private static final long LEAST_LONG = 1L << 63;
 
         private Exact() {
         }
@@ -1176,7 +1177,7 @@ public final class CubeClosures {
                     return ((a ^ b) & (a ^ result)) < 0;
                 default:
                     // The least long divided by -1 wraps round to itself, so it is looked at apart.
-                    return b == -1 ? a == Long.MIN_VALUE : b != 0 && result / b != a;
+                    return b == -1 ? a == LEAST_LONG : b != 0 && result / b != a;
             }
         }
     }

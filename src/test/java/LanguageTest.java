@@ -23,6 +23,10 @@ public final class LanguageTest {
     private static final Pattern RULED_OUT = Pattern.compile(
             "\\b(throw|throws|try|catch|finally|synchronized|assert|import|package|double|float|var)\\b"
             + "|->|::|\\b\\w+Exact\\b|\\.(equals|hashCode|toString)\\b|while \\(true\\)|for \\(;;");
+    /** What follows the name of a class of the library: rule 4 lists functions, and no constants of Integer or Long. */
+    private static final Pattern OF_THE_LIBRARY = Pattern.compile(
+            "\\b(Integer|Long|Math|System|Arrays|String|Character|Short|Byte|Boolean|List|Objects)\\.(\\w+)(\\()?");
+    private static final String LISTED = "Integer.bitCount Long.bitCount Math.max Math.min System.arraycopy";
     private static final int MOST_LINES = 60;
     /** An object is used for 512 calls; some fifty of them fill it, and each round makes fifteen. */
     private static final int ROUNDS = 30;
@@ -35,6 +39,7 @@ public final class LanguageTest {
         test.face();
         test.classesInside();
         test.source();
+        test.library();
         test.methodsAreShort();
         test.room();
         test.due.end();
@@ -114,6 +119,16 @@ public final class LanguageTest {
             due.holds("'" + matcher.group() + "' is ruled out", false);
         }
         due.holds("signs 1 to 127 alone", source.chars().allMatch(sign -> sign > 0 && sign < 128));
+    }
+
+    private void library() throws IOException {
+        due.part("the library");
+        Set<String> listed = words(LISTED);
+        Matcher matcher = OF_THE_LIBRARY.matcher(sourceWithoutComments());
+        while (matcher.find()) {
+            String used = matcher.group(1) + "." + matcher.group(2);
+            due.holds(used + " is a function that rule 4 lists", matcher.group(3) != null && listed.contains(used));
+        }
     }
 
     private void methodsAreShort() throws IOException {
